@@ -134,13 +134,13 @@ public final class ShapeEngine {
 
     public long item(int r, int i) {
         Rows rows = machine.rows;
-        int place = rows.isRow(r) ? rows.placeOf(r, i) : NONE;
+        int place = rows.placeOf(r, i);
         return place == NONE ? 0 : rows.items.worthAt(place);
     }
 
     public int shape(int s, int what) {
         Shapes shapes = machine.heap.shapes;
-        if (s < 0 || s >= shapes.made) return BAD;
+        if (!shapes.isShape(s)) return BAD;
         switch (what) {
             case 0: return shapes.parents[s];
             case 1: return shapes.lengths[s];
@@ -151,7 +151,7 @@ public final class ShapeEngine {
     }
 
     public int site(int s, int what) {
-        if (s < 0 || s >= text.sites || what < 0) return BAD;
+        if (!text.isSite(s) || what < 0) return BAD;
         Sites sites = machine.sites;
         switch (what) {
             case 0: return text.siteKinds[s];
@@ -167,7 +167,7 @@ public final class ShapeEngine {
     }
 
     public int fn(int f, int what) {
-        if (f < 0 || f >= text.fns) return BAD;
+        if (!text.isFn(f)) return BAD;
         Functions functions = machine.functions;
         switch (what) {
             case 0: return text.fnTakes[f];
@@ -354,7 +354,28 @@ public final class ShapeEngine {
         }
 
         void aim(int jump) {
-            args[jump] = length;
+            if (jump >= 0 && jump < length) args[jump] = length;
+        }
+
+        /** The place of the instruction that was taken back last. */
+        int placeTakenBack() {
+            return length < MOST_CODE ? places[length] : 0;
+        }
+
+        boolean isSite(int s) {
+            return s >= 0 && s < sites;
+        }
+
+        void turnSite(int s, int kind) {
+            if (isSite(s)) siteKinds[s] = kind;
+        }
+
+        boolean isFn(int f) {
+            return f >= 0 && f < fns;
+        }
+
+        void addName(int f) {
+            if (isFn(f)) fnTakes[f]++;
         }
 
         int addSite(int kind, int place, int fn, long name) {
@@ -458,7 +479,7 @@ public final class ShapeEngine {
                 }
                 if (variableNamed(lexer.value) != NONE) note(3, lexer.place);
                 addVariable(lexer.value, lexer.place);
-                program.fnTakes[scope]++;
+                program.addName(scope);
                 lexer.advance();
                 more = takes(',');
             }
@@ -539,9 +560,9 @@ public final class ShapeEngine {
                 refuse();
                 return;
             }
-            int taken = program.takeBack();
-            program.siteKinds[taken] = SITE_STRIKE;
-            program.emit(STRIKE_MEMBER, taken, program.sitePlaces[taken]);
+            int struck = program.takeBack();
+            program.turnSite(struck, SITE_STRIKE);
+            program.emit(STRIKE_MEMBER, struck, program.placeTakenBack());
             expect(';');
         }
 
@@ -558,9 +579,9 @@ public final class ShapeEngine {
             }
             // The place's own reading is taken back: its parts stay on the stack till the put.
             int arg = program.takeBack();
-            int place = program.places[program.length];
+            int place = program.placeTakenBack();
             lexer.advance();
-            if (form == MEMBER) program.siteKinds[arg] = SITE_PUT;
+            if (form == MEMBER) program.turnSite(arg, SITE_PUT);
             compileE(COMPARED);
             if (form == VARIABLE) program.emit(STORE, arg, place);
             else program.emit(form == MEMBER ? PUT_MEMBER : PUT_ITEM, arg, place);
@@ -858,17 +879,28 @@ public final class ShapeEngine {
             made = 0;
         }
 
+        boolean isShape(int s) {
+            return s >= 0 && s < made;
+        }
+
         boolean isParent(int object) {
-            return roots[object + 1] != NONE;
+            return object >= 0 && object < MOST_OBJECTS && roots[object + 1] != NONE;
+        }
+
+        /** The parent of a shape; NONE without one. */
+        int parentOf(int s) {
+            return isShape(s) ? parents[s] : NONE;
         }
 
         /** The shape without names of a parent, or of none. */
         int rootOf(int parent) {
+            if (parent < NONE || parent >= MOST_OBJECTS) return NONE;
             if (roots[parent + 1] == NONE) roots[parent + 1] = add(parent, NONE, 0);
             return roots[parent + 1];
         }
 
         int with(int shape, long name) {
+            if (!isShape(shape)) return NONE;
             int next = firstLonger[shape];
             for (int i = 0; i < longer[shape] && next != NONE; i++) {
                 if (names[next] == name) return next;
@@ -940,7 +972,7 @@ public final class ShapeEngine {
 
         /** A new object's number; NONE if there is no room. */
         int addObject(int parent) {
-            if (made >= MOST_OBJECTS) return NONE;
+            if (made >= MOST_OBJECTS || parent >= made) return NONE;
             int o = made;
             made++;
             parents[o] = parent;
@@ -949,17 +981,19 @@ public final class ShapeEngine {
             firsts[o] = NONE;
             lasts[o] = NONE;
             for (int w = 0; w < LINE_WORDS; w++) {
-                lines[o * LINE_WORDS + w] = parent == NONE ? 0 : lines[parent * LINE_WORDS + w];
+                lines[o * LINE_WORDS + w] = parent < 0 ? 0 : lines[parent * LINE_WORDS + w];
             }
             lines[o * LINE_WORDS + o / 64] |= 1L << (o % 64);
             return o;
         }
 
         boolean isOnLine(int o, int above) {
+            if (!isObject(o) || !isObject(above)) return false;
             return (lines[o * LINE_WORDS + above / 64] >>> (above % 64) & 1) != 0;
         }
 
         int find(int o, long name) {
+            if (!isObject(o)) return NONE;
             int cell = firsts[o];
             for (int i = 0; i < sizes[o] && cell != NONE; i++) {
                 if (names[cell] == name) return cell;
@@ -971,7 +1005,7 @@ public final class ShapeEngine {
         /** The object itself or the nearest one above it that has a member of the name; NONE without any. */
         int holderOf(int o, long name) {
             int at = o;
-            for (int i = 0; i < MOST_OBJECTS && at != NONE; i++) {
+            for (int i = 0; i < MOST_OBJECTS && isObject(at); i++) {
                 if (find(at, name) != NONE) return at;
                 at = parents[at];
             }
@@ -986,6 +1020,7 @@ public final class ShapeEngine {
         }
 
         void give(int o, long name, int sort, long number) {
+            if (!isObject(o)) return;
             int cell = find(o, name);
             if (cell == NONE) {
                 cell = append(o, name);
@@ -1026,6 +1061,7 @@ public final class ShapeEngine {
 
         /** Takes a member that is there out of its object's chain. */
         void strike(int o, long name) {
+            if (!isObject(o)) return;
             int before = NONE;
             int cell = firsts[o];
             for (int i = 0; i < sizes[o] && cell != NONE && names[cell] != name; i++) {
@@ -1078,10 +1114,11 @@ public final class ShapeEngine {
 
         /** Where an item is kept; NONE if there is none such. */
         int placeOf(int r, long i) {
-            return i < 0 || i >= sizes[r] ? NONE : starts[r] + (int) i;
+            return !isRow(r) || i < 0 || i >= sizes[r] ? NONE : starts[r] + (int) i;
         }
 
         void putAt(int r, int place, int sort, long number) {
+            if (!isRow(r)) return;
             int needed = neededFor(sort, number);
             if (needed > kinds[r]) {
                 kinds[r] = needed;
@@ -1196,7 +1233,7 @@ public final class ShapeEngine {
 
         private boolean isOnWay(int at, int o, Heap heap) {
             if (o < wayEnds[at]) return false;
-            int parent = heap.shapes.parents[entries[at]];
+            int parent = heap.shapes.parentOf(entries[at]);
             return parent != NONE && heap.isOnLine(parent, o);
         }
 
@@ -1422,7 +1459,7 @@ public final class ShapeEngine {
 
         private void calculate(int op, int s, int place) {
             top -= 2;
-            if (!stack.isNumberAt(top) || !stack.isNumberAt(top + 1)) {
+            if (!stack.isNumberAt(top) || !stack.isNumberAt(top + 1) || !program.isSite(s)) {
                 fail(NO_NUMBER, place);
                 return;
             }
@@ -1474,7 +1511,7 @@ public final class ShapeEngine {
         private void getMember(int s, int place) {
             top--;
             int o = objectAt(top, place);
-            if (o == NONE) return;
+            if (o == NONE || !program.isSite(s)) return;
             long name = program.siteNames[s];
             int holder = heap.holderOf(o, name);
             int shape = heap.forms[o];
@@ -1487,7 +1524,7 @@ public final class ShapeEngine {
         private void putMember(int s, int place) {
             top -= 2;
             int o = objectAt(top, place);
-            if (o == NONE) return;
+            if (o == NONE || !program.isSite(s)) return;
             sites.meetPut(s, heap.forms[o]);
             sites.breakWays(o, heap, program.sites);
             heap.give(o, program.siteNames[s], stack.sortAt(top + 1), stack.numberAt(top + 1));
@@ -1496,7 +1533,7 @@ public final class ShapeEngine {
         private void strikeMember(int s, int place) {
             top--;
             int o = objectAt(top, place);
-            if (o == NONE) return;
+            if (o == NONE || !program.isSite(s)) return;
             sites.meetStrike(s);
             if (heap.find(o, program.siteNames[s]) == NONE) return;
             sites.breakWays(o, heap, program.sites);
@@ -1505,7 +1542,7 @@ public final class ShapeEngine {
 
         private void leaveMade(int s) {
             int f = program.siteFns[s];
-            if (f == NONE) return;
+            if (!program.isFn(f)) return;
             functions.leave(f, s);
             sites.dropGuesses(program, f);
         }
@@ -1558,13 +1595,13 @@ public final class ShapeEngine {
             top--;
             int sort = stack.sortAt(top);
             int number = (int) stack.numberAt(top);
-            if (sort == ROW) push(WHOLE, rows.sizes[number]);
-            else if (sort == OBJECT) push(WHOLE, heap.sizes[number]);
+            if (sort == ROW && rows.isRow(number)) push(WHOLE, rows.sizes[number]);
+            else if (sort == OBJECT && heap.isObject(number)) push(WHOLE, heap.sizes[number]);
             else fail(NO_OBJECT, place);
         }
 
         private void enter(int f, int place) {
-            if (!takeStep()) return;
+            if (!program.isFn(f) || !takeStep()) return;
             if (depth >= MOST_DEPTH) {
                 fail(TOO_DEEP, place);
                 return;
