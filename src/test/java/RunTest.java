@@ -19,25 +19,6 @@ public final class RunTest {
         Check.end();
     }
 
-    /** A text that fails; a # marks the place. */
-    private static ShapeEngine fails(int kind, String marked) {
-        int place = marked.indexOf('#');
-        String text = marked.replace("#", "");
-        ShapeEngine x = Check.with(text);
-        Check.due("run of " + text, x.run(20000), 1);
-        Check.due("failure of " + text, x.told(0), kind);
-        Check.due("place of " + text, x.told(1), place);
-        return x;
-    }
-
-    private static void prints(String e, long want) {
-        ShapeEngine x = Check.ran("print " + e + ";");
-        Check.due("printed " + e, x.printed(0), want);
-        boolean whole = want >= -1073741824L && want <= 1073741823L;
-        Check.due("sort of " + e, x.paper(0, 0), whole ? 1 : 2);
-        Check.due("number of " + e, x.paper(0, 1), 0);
-    }
-
     private static void endings() {
         ShapeEngine x = Check.ran("print 1;return 5;print 2;");
         Check.due("a return in the main ends it", x.told(7), 1);
@@ -92,78 +73,78 @@ public final class RunTest {
     }
 
     private static void numbers() {
-        prints("1+2*3", 7);
-        prints("(1+2)*3", 9);
-        prints("10-3-2", 5);
-        prints("-3-2", -5);
-        prints("2--3", 5);
-        prints("--5", 5);
-        prints("536870911*2+1", 1073741823L);
-        prints("536870911*2+2", 1073741824L);
-        prints("-536870911*2-2", -1073741824L);
-        prints("-536870911*2-3", -1073741825L);
-        prints("-(-536870911*2-2)", 1073741824L);
-        prints("536870911*536870911*536870911", 536870911L * 536870911L * 536870911L);
-        prints("(536870911*8+8)*(536870911*8+8)", 0);
-        prints("(536870911*8+8)*(536870911*4+4)", Long.MIN_VALUE);
-        prints("-((536870911*8+8)*(536870911*4+4))", Long.MIN_VALUE);
-        prints("(536870911*8+8)*(536870911*4+4)-1", Long.MAX_VALUE);
-        prints("536870911*4-536870911*4", 0);
-        prints("1<2", 1);
-        prints("2<2", 0);
-        prints("3<2", 0);
-        prints("-1<0", 1);
-        prints("536870911<536870911*4", 1);
-        prints("1+1<1*3", 1);
+        Check.prints("1+2*3", 7);
+        Check.prints("(1+2)*3", 9);
+        Check.prints("10-3-2", 5);
+        Check.prints("-3-2", -5);
+        Check.prints("2--3", 5);
+        Check.prints("--5", 5);
+        Check.prints("536870911*2+1", 1073741823L);
+        Check.prints("536870911*2+2", 1073741824L);
+        Check.prints("-536870911*2-2", -1073741824L);
+        Check.prints("-536870911*2-3", -1073741825L);
+        Check.prints("-(-536870911*2-2)", 1073741824L);
+        Check.prints("536870911*536870911*536870911", 536870911L * 536870911L * 536870911L);
+        Check.prints("(536870911*8+8)*(536870911*8+8)", 0);
+        Check.prints("(536870911*8+8)*(536870911*4+4)", Long.MIN_VALUE);
+        Check.prints("-((536870911*8+8)*(536870911*4+4))", Long.MIN_VALUE);
+        Check.prints("(536870911*8+8)*(536870911*4+4)-1", Long.MAX_VALUE);
+        Check.prints("536870911*4-536870911*4", 0);
+        Check.prints("1<2", 1);
+        Check.prints("2<2", 0);
+        Check.prints("3<2", 0);
+        Check.prints("-1<0", 1);
+        Check.prints("536870911<536870911*4", 1);
+        Check.prints("1+1<1*3", 1);
     }
 
     private static void sameness() {
-        prints("1==1", 1);
-        prints("1==2", 0);
-        prints("none==none", 1);
-        prints("none==0", 0);
-        prints("536870911*4==536870911*2*2", 1);
-        prints("new()==new()", 0);
-        prints("row(0)==row(0)", 0);
-        prints("new()==row(1)", 0);
-        prints("new()==0", 0);
+        Check.prints("1==1", 1);
+        Check.prints("1==2", 0);
+        Check.prints("none==none", 1);
+        Check.prints("none==0", 0);
+        Check.prints("536870911*4==536870911*2*2", 1);
+        Check.prints("new()==new()", 0);
+        Check.prints("row(0)==row(0)", 0);
+        Check.prints("new()==row(1)", 0);
+        Check.prints("new()==0", 0);
         ShapeEngine x = Check.ran("let a=new();let r=row(1);print a==a;print r==r;print a==r;print a==none;let b=a;print a==b;");
         int[] want = {1, 1, 0, 0, 1};
         for (int i = 0; i < want.length; i++) Check.due("sameness " + i, x.printed(i), want[i]);
     }
 
     private static void numberFailures() {
-        fails(1, "print none#+1;");
-        fails(1, "print 1#-none;");
-        fails(1, "print new()#*2;");
-        fails(1, "print 1+2#*row(1);");
-        fails(1, "print #-none;");
-        fails(1, "print -(#-new());");
-        fails(1, "print 1#<none;");
-        fails(1, "print none#<1;");
-        fails(1, "#if none{}");
-        fails(1, "#while new(){}");
-        fails(1, "let i=1;#while i{i=none;}");
-        fails(1, "fn f(){}print 1#+f();");
+        Check.fails(1, "print none#+1;");
+        Check.fails(1, "print 1#-none;");
+        Check.fails(1, "print new()#*2;");
+        Check.fails(1, "print 1+2#*row(1);");
+        Check.fails(1, "print #-none;");
+        Check.fails(1, "print -(#-new());");
+        Check.fails(1, "print 1#<none;");
+        Check.fails(1, "print none#<1;");
+        Check.fails(1, "#if none{}");
+        Check.fails(1, "#while new(){}");
+        Check.fails(1, "let i=1;#while i{i=none;}");
+        Check.fails(1, "fn f(){}print 1#+f();");
         ShapeEngine x = Check.ran("if -1{print 1;}if 0{print 2;}else{print 3;}if 536870911*8{print 4;}");
         Check.due("what is not 0 is true", x.told(7), 3);
         Check.due("else", x.printed(1), 3);
     }
 
     private static void objectFailures() {
-        fails(2, "print none#.x;");
-        fails(2, "print 1#.x;");
-        fails(2, "print row(1)#.x;");
-        fails(2, "let o=new();print o.x#.y;");
-        fails(2, "let o=1;o#.x=2;");
-        fails(2, "del none#.x;");
-        fails(2, "del row(1)#.x;");
-        fails(2, "print #new(1);");
-        fails(2, "print #new(row(1));");
-        fails(2, "print #size(none);");
-        fails(2, "print #size(1);");
-        fails(2, "let o=1;print -o#.x;");
-        fails(1, "let o=new();print #-o.x;");
+        Check.fails(2, "print none#.x;");
+        Check.fails(2, "print 1#.x;");
+        Check.fails(2, "print row(1)#.x;");
+        Check.fails(2, "let o=new();print o.x#.y;");
+        Check.fails(2, "let o=1;o#.x=2;");
+        Check.fails(2, "del none#.x;");
+        Check.fails(2, "del row(1)#.x;");
+        Check.fails(2, "print #new(1);");
+        Check.fails(2, "print #new(row(1));");
+        Check.fails(2, "print #size(none);");
+        Check.fails(2, "print #size(1);");
+        Check.fails(2, "let o=1;print -o#.x;");
+        Check.fails(1, "let o=new();print #-o.x;");
         ShapeEngine x = Check.ran("let a=new(none);print size(a);a.x=1;a.y=2;print size(a);let b=new(a);print size(b);print b.y;print b.q;");
         Check.due("size of none", x.printed(0), 0);
         Check.due("own members", x.printed(1), 2);
@@ -177,37 +158,37 @@ public final class RunTest {
     }
 
     private static void rowFailures() {
-        fails(1, "print #row(none);");
-        fails(4, "print #row(-1);");
-        fails(4, "print #row(51);");
-        fails(4, "print #row(536870911*536870911);");
-        fails(4, "print #row(536870911*8+8);");
-        fails(2, "print none#[0];");
-        fails(2, "print new()#[0];");
-        fails(2, "print 1#[none];");
-        fails(1, "let r=row(2);print r#[none];");
-        fails(1, "let r=row(2);print r#[r];");
-        fails(3, "let r=row(2);print r#[2];");
-        fails(3, "let r=row(2);print r#[-1];");
-        fails(3, "let r=row(2);print r#[536870911*8+8];");
-        fails(3, "let r=row(0);print r#[0];");
-        fails(2, "let r=1;r#[none]=1;");
-        fails(1, "let r=row(2);r#[none]=1;");
-        fails(3, "let r=row(2);r#[2]=1;");
-        fails(2, "let r=row(2);r[0]#[0]=1;");
+        Check.fails(1, "print #row(none);");
+        Check.fails(4, "print #row(-1);");
+        Check.fails(4, "print #row(51);");
+        Check.fails(4, "print #row(536870911*536870911);");
+        Check.fails(4, "print #row(536870911*8+8);");
+        Check.fails(2, "print none#[0];");
+        Check.fails(2, "print new()#[0];");
+        Check.fails(2, "print 1#[none];");
+        Check.fails(1, "let r=row(2);print r#[none];");
+        Check.fails(1, "let r=row(2);print r#[r];");
+        Check.fails(3, "let r=row(2);print r#[2];");
+        Check.fails(3, "let r=row(2);print r#[-1];");
+        Check.fails(3, "let r=row(2);print r#[536870911*8+8];");
+        Check.fails(3, "let r=row(0);print r#[0];");
+        Check.fails(2, "let r=1;r#[none]=1;");
+        Check.fails(1, "let r=row(2);r#[none]=1;");
+        Check.fails(3, "let r=row(2);r#[2]=1;");
+        Check.fails(2, "let r=row(2);r[0]#[0]=1;");
     }
 
     /** What is worked out first, and which of several failures is told. */
     private static void order() {
-        fails(1, "print none+(1#+none);");
-        fails(1, "print (none#+1)+(1+none);");
-        fails(1, "let o=none;o.x=1#+none;");
-        fails(1, "let r=none;r[9]=1#+none;");
-        fails(1, "let r=none;r[1#+none]=2+none;");
-        fails(1, "let r=none;r[0#-none]=2;");
-        fails(2, "let r=none;r#[none]=2;");
-        fails(2, "let o=none;print o#.x+(1+none);");
-        fails(1, "fn f(a,b){}f(1#+none,2+none);");
+        Check.fails(1, "print none+(1#+none);");
+        Check.fails(1, "print (none#+1)+(1+none);");
+        Check.fails(1, "let o=none;o.x=1#+none;");
+        Check.fails(1, "let r=none;r[9]=1#+none;");
+        Check.fails(1, "let r=none;r[1#+none]=2+none;");
+        Check.fails(1, "let r=none;r[0#-none]=2;");
+        Check.fails(2, "let r=none;r#[none]=2;");
+        Check.fails(2, "let o=none;print o#.x+(1+none);");
+        Check.fails(1, "fn f(a,b){}f(1#+none,2+none);");
         ShapeEngine x = Check.ran("fn f(n){print n;return n;}let r=row(9);r[f(1)+f(2)]=f(3)*f(4);"
             + "print r[3];if f(5)<f(6){}");
         long[] want = {1, 2, 3, 4, 12, 5, 6};
@@ -243,27 +224,27 @@ public final class RunTest {
         ShapeEngine x = Check.ran("fn f(n){if n==1{return 1;}return f(n-1)+1;}print f(12);");
         Check.due("twelve in one another", x.printed(0), 12);
         Check.due("told(15)", x.told(15), 12);
-        x = fails(5, "fn f(n){if n==1{return 1;}return #f(n-1)+1;}print f(13);");
+        x = Check.fails(5, "fn f(n){if n==1{return 1;}return #f(n-1)+1;}print f(13);");
         Check.due("the thirteenth is none", x.told(3), 12);
         Check.due("nor counted", x.fn(0, 1), 12);
         Check.due("deepest", x.told(15), 12);
         x = Check.ran("fn f(a){return a;}print f(f(f(f(f(f(f(f(1))))))));print f(1);");
         Check.due("E's of a call are not in it", x.told(15), 1);
-        fails(1, "fn f(n){if n==1{return 1;}return f(n-1#+none)+1;}print f(13);");
+        Check.fails(1, "fn f(n){if n==1{return 1;}return f(n-1#+none)+1;}print f(13);");
     }
 
     private static void room() {
-        ShapeEngine x = fails(6, "let i=0;while i<201{#new();i=i+1;}");
+        ShapeEngine x = Check.fails(6, "let i=0;while i<201{#new();i=i+1;}");
         Check.due("objects", x.told(4), 200);
         Check.due("the last", x.object(199, 2), 0);
         Check.due("none behind it", x.object(200, 2), -2);
-        fails(2, "let i=0;while i<200{new();i=i+1;}#new(1);");
-        x = fails(6, "let i=0;while i<61{#row(50);i=i+1;}");
+        Check.fails(2, "let i=0;while i<200{new();i=i+1;}#new(1);");
+        x = Check.fails(6, "let i=0;while i<61{#row(50);i=i+1;}");
         Check.due("rows", x.told(6), 60);
         Check.due("the last row", x.row(59, 1), 50);
         Check.due("its last item", x.row(59, 51), 1);
         Check.due("none behind it", x.row(60, 1), -2);
-        fails(4, "let i=0;while i<60{row(0);i=i+1;}#row(51);");
+        Check.fails(4, "let i=0;while i<60{row(0);i=i+1;}#row(51);");
     }
 
     private static void paper() {
