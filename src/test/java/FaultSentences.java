@@ -251,6 +251,17 @@ final class FaultSentences {
         Check.fault(3, "fn f(a){}f(#f());");
     }
 
+    @Sentence(promise = 4, says = {"3: a CALL (at its NAME) with another number of E than its FN has NAMES;",
+        "a NAME ahead of ( that is no FN's;"})
+    static void theLastOfVeryManyCalls() {
+        // Eight calls in 25 bytes; there can hardly be more in a text.
+        String calls = "fn g(){}fn f(a){}" + "f(f(f(f(f(f(f(g())))))));".repeat(59);
+        Check.fine(calls, 0);
+        Check.fault(3, calls + "#f();");
+        Check.fault(3, calls + "#g(1);");
+        Check.fault(2, calls + "#h();");
+    }
+
     @Sentence(promise = 4, says = "the NAME of a 13th VARIABLE;")
     static void thirteenthVariable() {
         Check.fine(lets(11), 0);

@@ -124,6 +124,22 @@ final class MakingSentences {
         fn(READ + times(4, "f(a);") + "f(b);" + times(4, "f(a);") + "f(b);", 10, 5, 1, 2, 1, 0, 0);
     }
 
+    @Sentence(promise = {16, 17}, says = "of all READ and SUM SITES in its text GUESSES are taken:")
+    static void guessesOfTheMostSites() {
+        String reads = "fn f(o,p){" + "o.x;".repeat(79) + "p.x;}let a=new();let b=new(a);let c=new(b);let d=new(c);";
+        String four = "f(a,a);f(a,b);f(a,c);f(a,a);";
+        fn(reads + four + "f(a,b);f(a,c);", 6, 6, 1, 1, 0, 0, NONE);
+        ShapeEngine x = fn(reads + four + "f(a,d);", 5, 0, 0, 1, 1, 0, 79);
+        Check.due("sites", x.count(2), 80);
+        fn(reads + four + "f(b,a);", 5, 0, 0, 1, 1, 0, 0);
+        // Four entries at the last site of all.
+        String last = "fn f(o,p){if 0{" + "o.x;".repeat(78) + "}let i=0;while i<2{i=i+1;o.x;o=p;}}let a=new();let b=new(a);"
+            + "let c=new(b);let d=new(c);let e=new(d);f(a,b);f(c,d);f(a,a);f(a,a);";
+        x = fn(last + "f(b,c);f(d,a);", 6, 6, 1, 1, 0, 0, NONE);
+        Check.due("entries", x.site(79, 4), 4);
+        fn(last + "f(d,e);", 5, 0, 0, 1, 1, 0, 79);
+    }
+
     @Sentence(promise = {16, 17}, says = "of a SUM that gave WHOLES alone: that.")
     static void guessesOfSums() {
         ShapeEngine x = fn(SUM + times(4, "f(1);"), 4, 4, 1, 1, 0, 0, NONE);

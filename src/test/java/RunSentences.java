@@ -57,6 +57,10 @@ final class RunSentences {
             2, 0, 1, 2, 3);
         Check.due("an E's none", x.paper(1, 0), 0);
         Check.papers("fn f(n){let m=n;if 0<n{f(n-1);}print m;print n;}f(2);", 0, 0, 1, 1, 2, 2);
+        ShapeEngine first = Check.papers("fn f(){if 0{let v=1;}print v;v=5;}f();f();", 0, 0);
+        Check.each("the first of them, too", i -> first.paper(i, 0), 0, 0);
+        ShapeEngine late = Check.papers("fn f(n){if 0{let v=1;}print v;}1+(2+(3+(4+(5+6))));f(0);", 0);
+        Check.due("whatever was worked out before", late.paper(0, 0), 0);
         // Twelve calls in one another, with twelve variables each.
         Check.papers("fn f(n){let a=n;let b=n;let c=n;let d=n;let e=n;let g=n;let h=n;let i=n;let j=n;let k=n;let l=n;"
             + "if n<12{f(n+1);}print a+l;}f(1);", 24, 22, 20, 18, 16, 14, 12, 10, 8, 6, 4, 2);
@@ -71,6 +75,19 @@ final class RunSentences {
         Check.papers("fn f(){while 1{if 1{return 3;}}}print f()+f();", 6);
         Check.papers("fn f(){return 1;print 9;return 2;}print f();", 1);
         Check.papers("fn f(a,b){return a-b;}print 100-f(10,f(4,1))*2;", 86);
+    }
+
+    @Sentence(promise = 5, says = {"A CALL (at its NAME, behind its step, 5: it would be the 13th in one another;",
+        "its value is that of return, none without."})
+    static void muchThatWaitsInTwelveCalls() {
+        // In each of the twelve calls 32 values wait for the next one's.
+        String text = "fn g(a,b,c,d){return a+b*c+d;}fn f(n){if n==0{return 1;}return " + "1+2*g(1,2,3,".repeat(6)
+            + "f(n-1)" + ")".repeat(6) + ";}print f(11);";
+        long want = 1;
+        for (int level = 0; level < 11 * 6; level++) want = 1 + 2 * (1 + 2 * 3 + want);
+        ShapeEngine x = Check.papers(text, want);
+        Check.due("in one another", x.told(15), 12);
+        Check.fails(5, text.replace("1+2*g(1,2,3,f", "1+2*g(1,2,3,#f").replace("f(11)", "f(12)"));
     }
 
     @Sentence(promise = {7, 8}, says = "print: the PAPER gets it.")
@@ -251,6 +268,63 @@ final class RunSentences {
         Check.each("fn 0", w -> x.fn(0, w), 1, 0, 0, 0, 0, 0, 0, NONE);
         Check.each("site 0", w -> x.site(0, w + 2), 0, 0, 0, 0, 0, 0, NONE);
         Check.due("what the sum gave", x.site(1, 4), 0);
+    }
+
+    @Sentence(promise = 5, says = "THE TEXT runs anew, from nothing (no OBJECTS, SHAPES, what SITES keep and FNS count):")
+    static void runsAnewBehindMuchThatWasSeen() {
+        ShapeEngine x = Check.with("fn f(o){return o.x;}fn g(o){return o.y==1+1;}let a=new();let b=new(a);" + "g(a);".repeat(4)
+            + "f(a);f(b);a.p=1;f(a);a.q=1;f(a);a.r=1;f(a);a.s=1;f(a);a.t=1;f(a);f(b);let r=row(1);r[0]=300;");
+        Check.due("all of it", x.run(999), 0);
+        Check.due("many", x.site(0, 5), 1);
+        Check.due("broken", x.told(11), 1);
+        Check.each("guesses", s -> x.site(s, 7), 0, 1, 1);
+        Check.due("widened", x.told(14), 1);
+        Check.due("a bit of it", x.run(1), 2);
+        Check.each("told", w -> x.told(w + 3), 0, 1, 1, 0, 0, 0, 0, 0, 0, 0, 0, 0, 0);
+        for (int s = 0; s < 3; s++) {
+            int site = s;
+            Check.each("site " + s, w -> x.site(site, w + 2), 0, 0, 0, 0, s == 0 ? 0 : 1, 0, NONE, NONE, NONE, NONE);
+        }
+        Check.each("fn 1", w -> x.fn(1, w), 1, 0, 0, 0, 0, 0, 0, NONE);
+    }
+
+    @Sentence(promise = 5, says = "THE TEXT runs anew, from nothing")
+    static void runsAnewBehindRunsThatFailed() {
+        ShapeEngine x = Check.with("fn f(){print 7;return 1+(1+(1+(1+(1+none))));}print 1+(1+(1+(1+f())));");
+        for (int run = 0; run < 240; run++) {
+            Check.due("run " + run, x.run(99), 1);
+            Check.due("printed in run " + run, x.printed(0), 7);
+        }
+        ShapeEngine y = Check.with("if 0{let v=1;let w=1;}print v;print w;v=5;w=6;");
+        for (int run = 0; run < 2; run++) {
+            Check.due("run " + run, y.run(99), 0);
+            Check.each("variables are none", i -> y.paper(i, 0), 0, 0);
+        }
+    }
+
+    @Sentence(promise = 5, says = "THE TEXT runs anew, from nothing")
+    static void theMostOfAllInEachRun() {
+        ShapeEngine rows = Check.with("let i=0;let r=none;while i<60{r=row(50);r[49]=i;r[0]=r[49];i=i+1;}print r[0];");
+        for (int run = 0; run < 3; run++) {
+            Check.due("run", rows.run(20000), 0);
+            Check.each("last items", r -> rows.item(r, 49), 0, 1, 2, 3);
+            Check.due("the last item of all", rows.item(59, 49), 59);
+            Check.due("printed", rows.printed(0), 59);
+        }
+        StringBuilder puts = new StringBuilder();
+        for (int n = 0; n < 76; n++) puts.append("o.n").append(n).append("=").append(n).append(";");
+        // Members that are struck and put again, behind 15200 others: 16050 came in all.
+        ShapeEngine members = Check.with("fn f(o){" + puts + "return o;}let p=none;let i=0;while i<200{p=f(new());i=i+1;}"
+            + "i=0;while i<850{del p.n0;p.n0=i;i=i+1;}");
+        for (int run = 0; run < 2; run++) {
+            Check.due("run", members.run(20000), 0);
+            Check.due("the last that came", members.worth(199, 75), 849);
+            Check.due("the one ahead of it", members.worth(199, 74), 75);
+            for (int o : new int[] {0, 99, 198}) {
+                Check.due("the first of " + o, members.worth(o, 0), 0);
+                Check.due("the last of " + o, members.worth(o, 75), 75);
+            }
+        }
     }
 
     private static long[] facts(ShapeEngine x) {

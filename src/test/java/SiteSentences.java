@@ -133,6 +133,22 @@ final class SiteSentences {
     }
 
     @Sentence(promise = {6, 16}, says = "a WAY is BROKEN when a MEMBER is put to an OBJECT of it (a new one or not),")
+    static void brokenByAPutToAnyOfIt() {
+        // Each object's own member up is its parent; the way of the last one is all others.
+        ShapeEngine x = Check.ran(READ + "let p=new();p.up=none;let q=p;let i=0;while i<199{p=new(q);p.up=q;q=p;i=i+1;}"
+            + "q=p.up;while (q==none)==0{f(p);q.y=1;q=q.up;}");
+        Check.due("once for each", x.told(11), 199);
+        Check.due("runs of the site", x.site(0, 2), 199);
+        Check.due("hits of the site", x.site(0, 3), 0);
+        // Beside each of 60 on the line stands one that is not, though it has a child.
+        x = Check.ran(READ + "let p=none;let q=none;let l=none;let i=0;while i<60{p=new(p);q=new(p);new(q);q.up=l;l=q;i=i+1;}"
+            + "f(p);while (l==none)==0{l.y=1;l=l.up;}f(p);");
+        Check.due("runs of the site", x.site(0, 2), 2);
+        Check.due("hits of the site", x.site(0, 3), 1);
+        Check.due("broken", x.told(11), 0);
+    }
+
+    @Sentence(promise = {6, 16}, says = "a WAY is BROKEN when a MEMBER is put to an OBJECT of it (a new one or not),")
     static void brokenByAPut() {
         String way = LINE + "a.x=1;a.y=1;f(d);";
         ShapeEngine x = Check.ran(way);
@@ -193,6 +209,28 @@ final class SiteSentences {
         x = Check.ran(all + "c.y=1;let z=new();z.z=1;f(z);");
         Check.due("not many", x.site(0, 5), 0);
         Check.due("entries", x.site(0, 4), 4);
+    }
+
+    @Sentence(promise = {6, 16}, says = "the ENTRY goes at once (MANY stays).")
+    static void entriesThatStayKeepTheirWays() {
+        // The way of b is a; that of d is c alone, which has the name; q is behind it.
+        String both = READ + "let a=new();let b=new(a);let q=new();let c=new(q);c.x=1;let d=new(c);";
+        ShapeEngine x = Check.ran(both + "f(b);f(d);a.y=1;q.y=1;f(d);");
+        reads(x, 1, 2, 1);
+        x = Check.ran(both + "f(b);f(d);a.y=1;c.y=1;");
+        reads(x, 0, 2, 2);
+        x = Check.ran(both + "f(d);f(b);c.y=1;q.y=1;f(b);");
+        reads(x, 1, 2, 1);
+        x = Check.ran(both + "f(d);f(b);c.y=1;a.y=1;");
+        reads(x, 0, 2, 2);
+    }
+
+    @Sentence(promise = {6, 16}, says = "the ENTRY goes at once (MANY stays).")
+    static void entriesOfTheLastOfTheMostSitesGo() {
+        ShapeEngine x = Check.ran("fn f(o){" + "o.x;".repeat(78) + "}let a=new();let b=new(a);a.y=1;f(b);a.y=2;");
+        Check.due("sites", x.count(2), 80);
+        Check.same("entries", s -> x.site(s, 4), 0, 0, 1, 76, 77);
+        reads(x, 0, 78, 78);
     }
 
     @Sentence(promise = {6, 16}, says = "(MANY stays).")

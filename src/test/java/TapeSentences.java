@@ -132,6 +132,15 @@ final class TapeSentences {
         Check.fault(1, all.substring(0, 1499) + "#@");
     }
 
+    @Sentence(promise = 3, says = "read() takes it as THE TEXT.")
+    static void aTextOf1500Tokens() {
+        ShapeEngine x = Check.with("1;".repeat(749) + "7;");
+        Check.due("it runs", x.run(750), 0);
+        Check.due("750 steps", x.told(2), 750);
+        Check.fault(1, "1;".repeat(749) + "1+#");
+        Check.fault(1, "1;".repeat(749) + "1#=");
+    }
+
     @Sentence(promise = 1, says = "NONE is -1.")
     static void noneIsOneBelowZero() {
         ShapeEngine x = new ShapeEngine();
@@ -304,6 +313,64 @@ final class TapeSentences {
         Check.due("read", x.read(), 0);
         Check.due("feed", x.feed(8, 0x2020202020202020L), 8);
         Check.due("bytes of the text stay", x.count(0), 1500);
+    }
+
+    @Sentence(promise = 3, says = {"THE TAPE, which is empty then, is THE TEXT:", "how many SITES it has;"})
+    static void manyTextsOneBehindAnother() {
+        ShapeEngine x = new ShapeEngine();
+        String one = "fn f(a,b){return a+b;}let o=new();o.x=f(1,2);print o.x;";
+        String two = "fn g(a){return a;}fn h(){}let v=1;let w=g(v);print w;";
+        for (int round = 0; round < 6; round++) {
+            boolean first = round % 3 < 2;
+            Check.due("sites in round " + round, Check.read(x, first ? one : two), first ? 3 : 0);
+            Check.each("count", x::count, first ? one.length() : two.length(), first ? 1 : 2, first ? 3 : 0, first ? 1 : 2, 0);
+            Check.due("names of the first fn", x.fn(0, 0), first ? 2 : 1);
+            Check.due("run", x.run(99), 0);
+            Check.due("printed", x.printed(0), first ? 3 : 1);
+        }
+    }
+
+    @Sentence(promise = 3, says = "THE TAPE, which is empty then, is THE TEXT:")
+    static void longTextsOneBehindAnother() {
+        ShapeEngine x = new ShapeEngine();
+        String text = "1;".repeat(496) + "print 7;";
+        for (int round = 0; round < 4; round++) Check.due("read", Check.read(x, text), 0);
+        Check.due("run", x.run(497), 0);
+        Check.due("printed", x.printed(0), 7);
+    }
+
+    @Sentence(promise = {3, 4}, says = {"THE TAPE, which is empty then, is THE TEXT:", "Of the latest read():"})
+    static void nothingOfALongerTextIsLeft() {
+        ShapeEngine x = new ShapeEngine();
+        String[] longer = {"let a==1;", "print 12;", "let ab=1;", "print a<b;"};
+        String[] shorter = {"let a=", "print 1", "let a", "print "};
+        for (int i = 0; i < longer.length; i++) {
+            Check.read(x, longer[i]);
+            Check.due("read of " + shorter[i], Check.read(x, shorter[i]), -11);
+            Check.due("it ends too early", x.fault(1), shorter[i].length());
+        }
+        Check.read(x, "print 123;print 4;");
+        Check.due("a shorter one", Check.read(x, "print 1;"), 0);
+        Check.due("run", x.run(9), 0);
+        Check.due("it alone", x.told(7), 1);
+        Check.due("printed", x.printed(0), 1);
+    }
+
+    @Sentence(promise = {3, 4}, says = {"all but THE TAPE stays.", "Of the latest read():"})
+    static void nothingOfAFaultyTextIsLeft() {
+        ShapeEngine x = new ShapeEngine();
+        String[] faulty = {"print ((((((((", "if 1{if 1{if 1{", "fn f(a,a){}", "fn f(){let o=o.x+1;", "print a;", "--------"};
+        String good = "fn f(a){return a;}print ((((((((1))))))));let b=f(2)+1;";
+        for (String text : faulty) {
+            Check.due("a fault", Check.read(x, text) < 0 ? 1 : 0, 1);
+            Check.due("none behind it", Check.read(x, good), 1);
+            Check.each("fault", x::fault, 0, NONE);
+            Check.each("count", x::count, good.length(), 1, 1, 1);
+            Check.due("names", x.fn(0, 0), 1);
+            Check.read(x, text);
+            Check.due("nine are too many open ones still", Check.read(x, "print (((((((((1)))))))));"), -11);
+            Check.due("the ninth", x.fault(1), 14);
+        }
     }
 
     @Sentence(promise = 3, says = "how many SITES it has;")

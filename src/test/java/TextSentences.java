@@ -24,6 +24,7 @@ final class TextSentences {
     static void tokensAsLongAsTheyCanBe() {
         Check.fine("print 1==2;", 0);
         Check.fault(1, "print 1==#=2;");
+        Check.fault(1, "print 1==#");
         Check.fault(1, "let a#==1;");
         Check.fine("let fnx=1;let let1=fnx;print let1;", 0);
         Check.fault(2, "#print1;");

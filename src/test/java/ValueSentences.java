@@ -3,6 +3,10 @@ final class ValueSentences {
     /** 2 to the 30th is the first wide; the others by their powers of 2. */
     private static final String P30 = "(536870911*2+2)", P31 = "(536870911*4+4)", P32 = "(536870911*8+8)",
         P63 = "(536870911*8+8)*(536870911*4+4)";
+    /** OBJECTS and ROWS that have the numbers 0 and 1, so that a NUMBER could be taken for one of them. */
+    private static final String THINGS = "let o=new();let p=new();o.x=1;p.x=1;let r=row(9);let s=row(9);";
+    private static final String[] NO_OBJECTS = {"none", "0", "1", P30, P32, "r", "s"},
+        NO_ROWS = {"none", "0", "1", P30, P32, "o", "p"};
 
     private ValueSentences() {
     }
@@ -165,10 +169,7 @@ final class ValueSentences {
     static void parents() {
         ShapeEngine x = Check.ran("let a=new();let b=new(none);let c=new(a);let d=new(c);let e=new(b.x);");
         Check.each("parent", o -> x.object(o, 1), -1, -1, 0, 2, -1);
-        Check.fails(2, "print #new(0);");
-        Check.fails(2, "print #new(1);");
-        Check.fails(2, "print #new(" + P30 + ");");
-        Check.fails(2, "print #new(row(1));");
+        for (String e : new String[] {"0", "1", "-1", P30, P32, "r", "s"}) Check.fails(2, THINGS + "print #new(" + e + ");");
         Check.fails(2, "print new(new(#new(1)));");
         Check.fails(1, "print new(1#+none);");
     }
@@ -188,7 +189,7 @@ final class ValueSentences {
     @Sentence(promise = {5, 6}, says = {"A MEMBER read (2 at its . , if it is of no OBJECT): the OBJECT's own;",
         "else that of its PARENT, as it would be read of it; without any none."})
     static void memberReads() {
-        for (String e : new String[] {"none", "1", P30, "row(1)"}) Check.fails(2, "print " + e + "#.x;");
+        for (String e : NO_OBJECTS) Check.fails(2, THINGS + "print " + e + "#.x;");
         Check.fails(2, "let o=new();print o.x#.y;");
         Check.papers("let a=new();a.x=1;a.y=2;let b=new(a);b.x=3;let c=new(b);print c.x;print c.y;print b.x;print a.x;",
             3, 2, 3, 1);
@@ -200,7 +201,10 @@ final class ValueSentences {
 
     @Sentence(promise = {5, 10}, says = "Put (2): the OBJECT's own becomes so, a new one comes behind its others.")
     static void memberPuts() {
-        for (String e : new String[] {"none", "1", P30, "row(1)"}) Check.fails(2, e + "#.x=1;");
+        for (String e : NO_OBJECTS) {
+            ShapeEngine failed = Check.fails(2, THINGS + e + "#.x=7;");
+            Check.each("nothing is put", o -> failed.worth(o, 0), 1, 1);
+        }
         ShapeEngine x = Check.ran("let a=new();a.p=1;a.q=2;a.r=3;a.q=none;a.p=4;");
         Check.due("members", x.object(0, 2), 3);
         Check.each("names", i -> x.letter(0, i, 0), 'p', 'q', 'r', 0);
@@ -214,7 +218,10 @@ final class ValueSentences {
 
     @Sentence(promise = {5, 9}, says = "del (2): its own is struck, if there is one.")
     static void memberStrikes() {
-        for (String e : new String[] {"none", "1", P30, "row(1)"}) Check.fails(2, "del " + e + "#.x;");
+        for (String e : NO_OBJECTS) {
+            ShapeEngine failed = Check.fails(2, THINGS + "del " + e + "#.x;");
+            Check.each("nothing is struck", o -> failed.object(o, 2), 1, 1);
+        }
         ShapeEngine x = Check.ran("let a=new();a.p=1;a.q=2;a.r=3;del a.q;del a.q;del a.z;");
         Check.each("names", i -> x.letter(0, i, 0), 'p', 'r', 0);
         ShapeEngine y = Check.ran("let a=new();a.p=1;let b=new(a);del b.p;print b.p;");
@@ -269,9 +276,11 @@ final class ValueSentences {
     static void items() {
         Check.papers("let r=row(3);r[0]=5;r[2]=7;print r[0];print r[1];print r[2];", 5, 0, 7);
         Check.papers("let r=row(50);r[49]=5;print r[49];print r[48];r[25+24]=6;print r[49];", 5, 0, 6);
-        for (String e : new String[] {"none", "1", P30, "new()"}) {
-            Check.fails(2, "print " + e + "#[0];");
-            Check.fails(2, e + "#[0]=1;");
+        for (String e : NO_ROWS) {
+            Check.fails(2, THINGS + "print " + e + "#[0];");
+            ShapeEngine failed = Check.fails(2, THINGS + e + "#[0]=300;");
+            Check.each("nothing is put", i -> failed.item(i, 0), 0, 0);
+            Check.each("nor widened", i -> failed.row(i, 0), 0, 0);
         }
         String row = "let r=row(3);let o=new();";
         for (String e : new String[] {"none", "o", "r"}) {
@@ -302,7 +311,7 @@ final class ValueSentences {
         Check.papers("let a=new();a.x=1;a.y=2;let b=new(a);print size(b);b.x=1;print size(b);print size(a);del a.x;"
             + "print size(a);", 0, 1, 2, 1);
         Check.papers("let a=new();a.a=1;a.b=1;a.c=1;a.d=1;a.e=1;a.f=1;a.g=1;a.h=1;print size(a);a.i=1;print size(a);", 8, 9);
-        for (String e : new String[] {"none", "0", "1", P30}) Check.fails(2, "print #size(" + e + ");");
+        for (String e : new String[] {"none", "0", "1", "-1", P30, P32}) Check.fails(2, THINGS + "print #size(" + e + ");");
     }
 
     private static void has(String puts, int kind, int widened) {
