@@ -211,7 +211,8 @@ public final class ShapeEngine {
         private final short[] kinds = new short[MOST_TOKENS];
         private final short[] places = new short[MOST_TOKENS];
         private final long[] values = new long[MOST_TOKENS];
-        private int tokens;
+        /** Of a text that is refused it is 0 from then on: advance() takes nothing more of it. */
+        int tokens;
         private int current;
         int kind = END;
         int place;
@@ -238,12 +239,6 @@ public final class ShapeEngine {
             kind = kinds[current];
             place = places[current];
             value = values[current];
-        }
-
-        /** Makes the end the token here and ever after, so that nothing more of a refused text is taken. */
-        void stop() {
-            current = tokens;
-            kind = END;
         }
 
         private void add(int newKind, int newPlace, long newValue) {
@@ -427,6 +422,24 @@ public final class ShapeEngine {
         private int calls;
 
         void compile(byte[] bytes, int size, Program into) {
+            begin(size, into);
+            lexer.begin(bytes, size);
+            for (int f = 0; f <= MOST_FNS && lexer.kind == Lexer.KEY_FN; f++) {
+                compileHead();
+                compileBlock();
+                program.emit(PUSH_NOTHING, 0, 0);
+                program.emit(RETURN, 0, 0);
+            }
+            scope = NONE;
+            known = 0;
+            program.mainStart = program.length;
+            for (int i = 0; i < TAPE_BYTES && lexer.kind != Lexer.END; i++) compileStep();
+            program.emit(HALT, 0, 0);
+            program.mainVariables = known;
+            if (!refused) settleCalls();
+        }
+
+        private void begin(int size, Program into) {
             program = into;
             program.begin(size);
             refused = false;
@@ -434,22 +447,10 @@ public final class ShapeEngine {
             faultPlace = NONE;
             open = 0;
             calls = 0;
-            lexer.begin(bytes, size);
-            for (int f = 0; f <= MOST_FNS && lexer.kind == Lexer.KEY_FN; f++) compileFn();
-            compileMain();
-            if (!refused) settleCalls();
         }
 
-        private void compileMain() {
-            scope = NONE;
-            known = 0;
-            program.mainStart = program.length;
-            for (int i = 0; i < TAPE_BYTES && lexer.kind != Lexer.END; i++) compileStep();
-            program.emit(HALT, 0, 0);
-            program.mainVariables = known;
-        }
-
-        private void compileFn() {
+        /** A fn up to its block. */
+        private void compileHead() {
             if (program.fns == MOST_FNS) {
                 refuse();
                 return;
@@ -464,9 +465,6 @@ public final class ShapeEngine {
             known = 0;
             lexer.advance();
             compileNames();
-            compileBlock();
-            program.emit(PUSH_NOTHING, 0, 0);
-            program.emit(RETURN, 0, 0);
         }
 
         private void compileNames() {
@@ -787,18 +785,20 @@ public final class ShapeEngine {
         }
 
         private void closes(int kind) {
-            expect(kind);
+            if (lexer.kind == kind) lexer.advance();
+            else refuse();
             open--;
         }
 
-        /** A fault of kind 1 at the token that is here; it goes ahead of all other kinds. */
+        /** A fault of kind 1 at the token that is here; it goes ahead of all other kinds, and ends the reading. */
         private void refuse() {
             if (!refused) {
                 refused = true;
                 faultKind = 1;
                 faultPlace = lexer.place;
             }
-            lexer.stop();
+            lexer.kind = Lexer.END;
+            lexer.tokens = 0;
         }
 
         /** A fault of kind 2 or 3: the one with the least place is kept, of one place the lowest kind. */

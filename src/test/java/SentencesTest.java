@@ -8,11 +8,11 @@ import java.util.Comparator;
 
 /**
  * Goes through the document sentence by sentence: each sentence has a test of its own in one of the parts, and
- * no sentence of the terms and the promises is without one.
+ * no sentence is without one, but for those of the section 'Not promised'.
  */
 public final class SentencesTest {
-    private static final Class<?>[] PARTS = {TapeSentences.class, TextSentences.class, FaultSentences.class,
-        ValueSentences.class, RunSentences.class, ShapeSentences.class, SiteSentences.class,
+    private static final Class<?>[] PARTS = {OpeningSentences.class, TapeSentences.class, TextSentences.class,
+        FaultSentences.class, ValueSentences.class, RunSentences.class, ShapeSentences.class, SiteSentences.class,
         MakingSentences.class, AnswerSentences.class};
 
     public static void main(String[] args) throws IOException {

@@ -63,13 +63,21 @@ final class TapeSentences {
     }
 
     @Sentence(promise = 1, says = {"public final class ShapeEngine {", "public ShapeEngine();",
-        "public int feed(int n, long bytes);", "public long printed(int i);", "public int count(int what);"})
-    static void faceAndNoMoreOfIt() {
-        Set<String> want = new TreeSet<>(Set.of("int feed(int,long)", "int read()", "int fault(int)", "int run(int)",
-            "int told(int)", "int paper(int,int)", "long printed(int)", "int object(int,int)"));
-        want.addAll(Set.of("int member(int,int,int)", "long worth(int,int)", "int letter(int,int,int)",
-            "int row(int,int)", "long item(int,int)", "int shape(int,int)", "int site(int,int)", "int fn(int,int)",
-            "int count(int)"));
+        "public int feed(int n, long bytes);", "public int read();", "public int fault(int what);",
+        "public int run(int limit);", "public int told(int what);", "public int paper(int i, int what);",
+        "public long printed(int i);", "public int object(int o, int what);",
+        "public int member(int o, int i, int what);", "public long worth(int o, int i);",
+        "public int letter(int o, int i, int k);", "public int row(int r, int what);", "public long item(int r, int i);",
+        "public int shape(int s, int what);", "public int site(int s, int what);", "public int fn(int f, int what);",
+        "public int count(int what);"})
+    static void faceAndNoMoreOfIt() throws NoSuchMethodException {
+        Method self = TapeSentences.class.getDeclaredMethod("faceAndNoMoreOfIt");
+        Set<String> want = new TreeSet<>();
+        for (String line : self.getAnnotation(Sentence.class).says()) {
+            if (!line.matches("public (int|long) .*")) continue;
+            want.add(line.replaceAll("^public |;$", "").replaceAll("(int|long) \\w+(?=[,)])", "$1").replace(", ", ","));
+        }
+        Check.due("methods of the document's face", want.size(), 17);
         Set<String> got = new TreeSet<>();
         for (Method m : ShapeEngine.class.getDeclaredMethods()) {
             if (Modifier.isPrivate(m.getModifiers()) || m.isSynthetic()) continue;
