@@ -211,8 +211,7 @@ public final class ShapeEngine {
         private final short[] kinds = new short[MOST_TOKENS];
         private final short[] places = new short[MOST_TOKENS];
         private final long[] values = new long[MOST_TOKENS];
-        /** Of a text that is refused it is 0 from then on: advance() takes nothing more of it. */
-        int tokens;
+        private int tokens;
         private int current;
         int kind = END;
         int place;
@@ -790,15 +789,15 @@ public final class ShapeEngine {
             open--;
         }
 
-        /** A fault of kind 1 at the token that is here; it goes ahead of all other kinds, and ends the reading. */
+        /** A fault of kind 1 at the token that is here; it goes ahead of all other kinds. */
         private void refuse() {
             if (!refused) {
                 refused = true;
                 faultKind = 1;
                 faultPlace = lexer.place;
             }
+            // No rule takes the end, so nothing more of a refused text is taken.
             lexer.kind = Lexer.END;
-            lexer.tokens = 0;
         }
 
         /** A fault of kind 2 or 3: the one with the least place is kept, of one place the lowest kind. */
