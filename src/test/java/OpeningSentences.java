@@ -41,7 +41,7 @@ final class OpeningSentences {
         Check.each("left when it is not", w -> y.fn(0, w), 1, 5, 0, 0, 1, 1, 0, 0);
     }
 
-    /** With each object a dictionary from its first moment no site keeps anything: that is all that may differ. */
+    /** Each object is a dictionary as soon as it is made, so that no read keeps anything of it. */
     private static String withDictionaries(String text) {
         String plain = text.replace("new()", "new(none)").replace("new(", "mk(");
         return "fn mk(p){let o=new(p);o.t=1;del o.t;return o;}" + plain;
